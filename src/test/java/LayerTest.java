@@ -27,6 +27,10 @@ public final class LayerTest {
         due("as little: joined 0 0", x.joined(0, 0), 6);
         due("as little, the least shift: joined 0 1", x.joined(0, 1), 0);
         due("joined 0 2", x.joined(0, 2), 2);
+        x.machine(18, 1, 3);
+        due("18 slots: joined 0 0", x.joined(0, 0), 23);
+        due("18 slots: joined 0 1", x.joined(0, 1), 1);
+        due("18 slots: joined 0 2", x.joined(0, 2), 3);
         x.machine(9, 1, 3);
         due("odd: joined 0 0", x.joined(0, 0), SlotStar.NO);
         due("odd: joined 0 3", x.joined(0, 3), SlotStar.OUTSIDE);
@@ -50,7 +54,14 @@ public final class LayerTest {
         for (int k = 0; k < 12; k++) {
             due("12 slots, 2 pairs of poles: partner " + k, x.partner(k), pairs[k]);
         }
-        due("partner 12", x.partner(12), SlotStar.UNKNOWN);
+        // Phase 0 has 0, 1, 2 forward and 9, 10, 11 back: shifts 1 and 2 are both 23 long.
+        x.machine(18, 1, 3);
+        int[] three = {10, 11, 9};
+        for (int k = 0; k < 3; k++) {
+            due("18 slots: partner " + k, x.partner(k), three[k]);
+            due("18 slots: partner " + three[k], x.partner(three[k]), k);
+        }
+        due("partner 18", x.partner(18), SlotStar.UNKNOWN);
         due("partner -1", x.partner(-1), SlotStar.UNKNOWN);
         x.machine(9, 1, 3);
         due("odd: partner 8", x.partner(8), SlotStar.NO);

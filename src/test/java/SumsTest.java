@@ -128,6 +128,9 @@ public final class SumsTest {
         due("turned 0 -1 1", x.turned(0, -1, 1), SlotStar.UNKNOWN);
         due("turned 0 1 0", x.turned(0, 1, 0), SlotStar.OUTSIDE);
         due("turned 0 1 100", x.turned(0, 1, 100), SlotStar.OUTSIDE);
+        // 4 to 4 x - 4: times x it is 4 x, so all numbers are to be compared.
+        x.machine(6, 1, 3);
+        due("6 slots: turned 0 1 1", x.turned(0, 1, 1), 2);
         x.machine(8, 1, 3);
         due("unbalanced: turned 0 3 1", x.turned(0, 3, 1), SlotStar.UNKNOWN);
         due("unbalanced: turned 0 0 100", x.turned(0, 0, 100), SlotStar.OUTSIDE);
