@@ -81,6 +81,11 @@ final class Edges {
         answersAndLeaves(given, call, refusal, NOTHING_KEPT);
     }
 
+    /** All that told tells: Q, P, M, WIDTH, T, N, BALANCED. */
+    void told(String given, int... want) {
+        for (int what = 0; what < want.length; what++) taken(given, "told " + what, want[what]);
+    }
+
     /** The last numbers taken in place of '#', with their answers, and the first ones that are not, with the farthest. */
     void edges(String given, String call, int refusal, int least, int atLeast, int most, int atMost) {
         taken(given, call.replace("#", "" + least), atLeast);

@@ -5,10 +5,6 @@ public final class EdgesOfLayerTest {
     private static final int UNKNOWN = SlotStar.UNKNOWN, OUTSIDE = SlotStar.OUTSIDE, STATE = SlotStar.STATE, NO = SlotStar.NO;
     private static Edges e;
 
-    private static void told(String given, int... want) {
-        for (int what = 0; what < want.length; what++) e.taken(given, "told " + what, want[what]);
-    }
-
     private static void promise14Refusals() {
         e.sentence(14, "UNKNOWN -1 (there is no such SLOT, PHASE)");
         e.edges("", "joined # 0", UNKNOWN, 0, 10, 2, 10);
@@ -45,6 +41,9 @@ public final class EdgesOfLayerTest {
         e.refused("machine 7 1 3", "joined 3 3", UNKNOWN);
         e.refused("machine 7 1 3", "joined 2 3", OUTSIDE);
         e.refused("machine 7 1 3", "joined 2 2", STATE);
+        // Two SLOTS FORWARD and one BACK, by the ZONES that a BALANCED machine would have: STATE and NO fit.
+        e.refused("machine 7 1 3", "joined 0 2", STATE);
+        e.refused("machine 3 3 3", "joined 0 0", STATE);
         e.refused("machine 3 3 3", "joined 1 0", STATE);
     }
 
@@ -75,6 +74,9 @@ public final class EdgesOfLayerTest {
         // FORWARD 0, 1, 2 and BACK 9, 10, 11: shifts 0 to 2 make 27, 23, 23.
         joined("machine 18 1 3", 0, 23, 1, 3);
         joined("machine 48 8 3", 2, 24, 0, 8);
+        // Shift 0 again after another PHASE, and another machine, took the greatest one.
+        joined("machine 24 2 3, joined 0 1, machine 12 2 3", 0, 6, 0, 2);
+        joined("machine 12 5 3, joined 0 1", 1, 2, 0, 2);
     }
 
     private static void promise15() {
@@ -99,6 +101,7 @@ public final class EdgesOfLayerTest {
         e.refused("machine 9 1 3", "partner -1", UNKNOWN);
         e.refused("machine 7 1 3", "partner 7", UNKNOWN);
         e.refused("machine 7 1 3", "partner 6", STATE);
+        e.refused("machine 7 1 3", "partner 0", STATE);
         e.refused("machine 3 3 3", "partner 0", STATE);
 
         e.sentence(15, "i and s, left over by how many there are");
@@ -107,6 +110,8 @@ public final class EdgesOfLayerTest {
             e.taken("machine 24 2 3", "partner " + pair[0], pair[1]);
             e.taken("machine 24 2 3", "partner " + pair[1], pair[0]);
         }
+        e.taken("machine 24 2 3, partner 0, machine 12 2 3", "partner 0", 3);
+        e.taken("machine 24 2 3, partner 0, machine 12 2 3", "partner 3", 0);
         int[][] three = {{0, 10}, {1, 11}, {2, 9}};
         for (int[] pair : three) {
             e.taken("machine 18 1 3", "partner " + pair[0], pair[1]);
@@ -155,24 +160,24 @@ public final class EdgesOfLayerTest {
         e.edges("", "image #", OUTSIDE, 0, 1, 1, 1);
         e.edges("machine 8 1 3", "image #", OUTSIDE, 0, 1, 1, 1);
         e.taken("image 0", "image 0", 1);
-        told("width 11, image 0", 12, 1, 3, 11, 1, 12, 1);
+        e.told("width 11, image 0", 12, 1, 3, 11, 1, 12, 1);
 
         e.sentence(17, "The MACHINE, its WIDTH are kept");
-        told("machine 48 10 5, width 47, image 0, machine 3 1 3, restore 0", 48, 10, 5, 47, 2, 24, 0);
-        told("machine 3 10 3, image 1, machine 48 1 5, restore 1", 3, 10, 3, 1, 1, 3, 1);
-        told("image 0, machine 9 1 3, image 1, machine 10 1 5, restore 0", 12, 1, 3, 5, 1, 12, 1);
-        told("image 0, machine 9 1 3, image 1, machine 10 1 5, restore 0, restore 1", 9, 1, 3, 4, 1, 9, 1);
-        told("image 1, machine 9 1 3, image 1, machine 10 1 5, restore 1", 9, 1, 3, 4, 1, 9, 1);
-        told("image 0, machine 9 1 3, image 2, image -1, machine 10 1 5, restore 0", 12, 1, 3, 5, 1, 12, 1);
+        e.told("machine 48 10 5, width 47, image 0, machine 3 1 3, restore 0", 48, 10, 5, 47, 2, 24, 0);
+        e.told("machine 3 10 3, image 1, machine 48 1 5, restore 1", 3, 10, 3, 1, 1, 3, 1);
+        e.told("image 0, machine 9 1 3, image 1, machine 10 1 5, restore 0", 12, 1, 3, 5, 1, 12, 1);
+        e.told("image 0, machine 9 1 3, image 1, machine 10 1 5, restore 0, restore 1", 9, 1, 3, 4, 1, 9, 1);
+        e.told("image 1, machine 9 1 3, image 1, machine 10 1 5, restore 1", 9, 1, 3, 4, 1, 9, 1);
+        e.told("image 0, machine 9 1 3, image 2, image -1, machine 10 1 5, restore 0", 12, 1, 3, 5, 1, 12, 1);
     }
 
     private static void promise18() {
         e.sentence(18, "They are as they were when they were kept: 1.");
         e.edges("image 0, image 1, machine 9 1 3", "restore #", OUTSIDE, 0, 1, 1, 1);
-        told("image 0, width 11, restore 0", 12, 1, 3, 5, 1, 12, 1);
-        told("width 11, image 0, width 1, machine 8 1 3, restore 0", 12, 1, 3, 11, 1, 12, 1);
-        told("image 0, restore 0, machine 9 1 3, restore 0", 12, 1, 3, 5, 1, 12, 1);
-        told("image 0, machine 9 1 3, restore 0, width 2, restore 0", 12, 1, 3, 5, 1, 12, 1);
+        e.told("image 0, width 11, restore 0", 12, 1, 3, 5, 1, 12, 1);
+        e.told("width 11, image 0, width 1, machine 8 1 3, restore 0", 12, 1, 3, 11, 1, 12, 1);
+        e.told("image 0, restore 0, machine 9 1 3, restore 0", 12, 1, 3, 5, 1, 12, 1);
+        e.told("image 0, machine 9 1 3, restore 0, width 2, restore 0", 12, 1, 3, 5, 1, 12, 1);
         e.refused("machine 3 1 3, image 0, machine 48 1 5, restore 0", "slot 3 0", UNKNOWN);
         e.refused("machine 3 1 3, image 0, machine 48 1 5, restore 0", "phase 3 0", UNKNOWN);
         e.taken("image 0, machine 8 1 3, restore 0", "sum 0 1 3", -2);
@@ -201,10 +206,10 @@ public final class EdgesOfLayerTest {
         e.sentence(19, "0 Q, 1 P, 2 M, 3 WIDTH, 4 T, 5 N, 6 BALANCED (1, 0)");
         e.edges("", "told #", OUTSIDE, 0, 12, 6, 1);
         e.edges("machine 10 1 3", "told #", OUTSIDE, 0, 10, 6, 0);
-        told("machine 3 1 3", 3, 1, 3, 1, 1, 3, 1);
-        told("machine 48 10 5, width 47", 48, 10, 5, 47, 2, 24, 0);
-        told("machine 10 10 3", 10, 10, 3, 1, 10, 1, 0);
-        told("machine 45 9 5", 45, 9, 5, 2, 9, 5, 1);
+        e.told("machine 3 1 3", 3, 1, 3, 1, 1, 3, 1);
+        e.told("machine 48 10 5, width 47", 48, 10, 5, 47, 2, 24, 0);
+        e.told("machine 10 10 3", 10, 10, 3, 1, 10, 1, 0);
+        e.told("machine 45 9 5", 45, 9, 5, 2, 9, 5, 1);
     }
 
     public static void main(String[] args) throws IOException {

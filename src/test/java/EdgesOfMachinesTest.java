@@ -5,13 +5,9 @@ public final class EdgesOfMachinesTest {
     private static final int UNKNOWN = SlotStar.UNKNOWN, OUTSIDE = SlotStar.OUTSIDE, STATE = SlotStar.STATE;
     private static Edges e;
 
-    private static void told(String given, int... want) {
-        for (int what = 0; what < want.length; what++) e.taken(given, "told " + what, want[what]);
-    }
-
     private static void promise1() {
         e.sentence(1, "Twelve SLOTS, one pair of poles, three PHASES, WIDTH 5.");
-        told("", 12, 1, 3, 5, 1, 12, 1);
+        e.told("", 12, 1, 3, 5, 1, 12, 1);
         e.edges("", "slot # 5", UNKNOWN, 0, 5, 11, 4);
         e.edges("", "phase # 0", UNKNOWN, 0, 4, 2, 4);
         e.taken("", "width 11", 5);
