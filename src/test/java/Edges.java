@@ -1,14 +1,10 @@
 import java.io.IOException;
 import java.lang.reflect.InvocationTargetException;
 import java.lang.reflect.Method;
-import java.nio.file.Files;
-import java.nio.file.Path;
 import java.util.ArrayList;
 import java.util.List;
 import java.util.Set;
 import java.util.TreeSet;
-import java.util.regex.Matcher;
-import java.util.regex.Pattern;
 
 /**
  * The document's sentences that name a boundary, each with rows of its own.
@@ -16,15 +12,13 @@ import java.util.regex.Pattern;
  * what was done before them is a text too ("machine 9 1 3, width 2").
  */
 final class Edges {
-    private static final String DOCUMENT = "../shared/DOC.md";
     private static final String NOTHING_KEPT = "";
     private static final String BOTH_KEPT = "machine 15 1 5, width 2, image 0, machine 8 4 3, width 3, image 1, machine 12 1 3, width 5";
     private static final Set<String> CHANGING = Set.of("machine", "width", "image", "restore");
-    private static final String[] REFUSALS = {"UNKNOWN", "OUTSIDE", "STATE", "FULL", "NO", "NONE"};
     private static final int[] REFUSAL_NUMBERS = {SlotStar.UNKNOWN, SlotStar.OUTSIDE, SlotStar.STATE, SlotStar.FULL, SlotStar.NO, SlotStar.NONE};
 
     private final Check check;
-    private final String document;
+    private final Document document = new Document();
     private final int firstPromise;
     private final int lastPromise;
     private final Set<Integer> promises = new TreeSet<>();
@@ -34,7 +28,6 @@ final class Edges {
 
     Edges(String test, int firstPromise, int lastPromise) throws IOException {
         check = new Check(test);
-        document = Files.readString(Path.of(DOCUMENT)).replaceAll("\\s+", " ");
         this.firstPromise = firstPromise;
         this.lastPromise = lastPromise;
     }
@@ -45,19 +38,11 @@ final class Edges {
         sentence = "promise " + promise + ", \"" + words + "\": ";
         rowsOfSentence = 0;
         promises.add(promise);
-        String before = document.substring(0, document.indexOf("## Promise 1:"));
-        check.holds(sentence + "the document says so", before.contains(words) || textOf(promise).contains(words));
+        check.holds(sentence + "the document says so", document.says(promise, words));
     }
 
     private void closeSentence() {
         check.holds(sentence + "has rows of its own", rowsOfSentence > 0);
-    }
-
-    private String textOf(int promise) {
-        int from = document.indexOf("## Promise " + promise + ":");
-        int to = document.indexOf("## ", from + 3);
-        check.holds("the document has promise " + promise, from >= 0 && to > from);
-        return from >= 0 && to > from ? document.substring(from, to) : "";
     }
 
     /** A call that is taken answers so; if it only asks, it changes nothing. */
@@ -98,8 +83,8 @@ final class Edges {
     void due(String given, String call, int got, int want) {
         rowsOfSentence++;
         int number = nameOf(call).equals("sum") && got < SlotStar.GONE / 2 ? got - SlotStar.GONE : got;
-        for (int i = 0; i < REFUSALS.length; i++) {
-            if (number == REFUSAL_NUMBERS[i]) answered.add(nameOf(call) + " " + REFUSALS[i]);
+        for (int i = 0; i < Document.REFUSALS.length; i++) {
+            if (number == REFUSAL_NUMBERS[i]) answered.add(nameOf(call) + " " + Document.REFUSALS[i]);
         }
         check.due(sentence + "[" + given + "] " + call, got, want);
     }
@@ -169,13 +154,11 @@ final class Edges {
         closeSentence();
         Set<String> exempt = Set.of(never);
         for (int promise = firstPromise; promise <= lastPromise; promise++) {
+            check.holds("the document has promise " + promise, document.has(promise));
             check.holds("promise " + promise + " has a sentence", promises.contains(promise));
-            String text = textOf(promise);
-            Matcher call = Pattern.compile("int (\\w+)\\(").matcher(text);
-            String name = call.find() ? call.group(1) : "";
-            for (String refusal : REFUSALS) {
+            String name = document.callOf(promise).split("\\(")[0];
+            for (String refusal : document.refusalsOf(promise)) {
                 String pair = name + " " + refusal;
-                if (!Pattern.compile("\\b" + refusal + "\\b").matcher(text).find()) continue;
                 check.holds(pair + " has come", answered.contains(pair) != exempt.contains(pair));
             }
         }

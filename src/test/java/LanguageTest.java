@@ -50,11 +50,43 @@ public final class LanguageTest {
         }
         for (Method f : SlotStar.class.getDeclaredMethods()) {
             CHECK.holds(f + " has a name of its own", !Modifier.isPrivate(f.getModifiers()) || !openNames.contains(f.getName()));
-            CHECK.holds(f + " takes at most seven", f.getParameterCount() <= 7);
         }
         Constructor<?>[] makers = SlotStar.class.getDeclaredConstructors();
         CHECK.holds("one public constructor", makers.length == 1 && Modifier.isPublic(makers[0].getModifiers()) && makers[0].getParameterCount() == 0);
         CHECK.holds("public and final", Modifier.isPublic(SlotStar.class.getModifiers()) && Modifier.isFinal(SlotStar.class.getModifiers()));
+    }
+
+    private static void sizes() {
+        Class<?>[] inside = SlotStar.class.getDeclaredClasses();
+        CHECK.holds("at most twelve classes", inside.length < 12);
+        sizesOf(SlotStar.class);
+        for (Class<?> c : inside) sizesOf(c);
+    }
+
+    private static void sizesOf(Class<?> c) {
+        int fields = 0;
+        for (Field f : c.getDeclaredFields()) {
+            boolean shared = Modifier.isStatic(f.getModifiers());
+            CHECK.holds(f + " is a constant of int, or no static one", !shared || Modifier.isFinal(f.getModifiers()) && f.getType() == int.class);
+            if (!shared) fields++;
+        }
+        CHECK.holds(c + " has at most twenty fields", fields <= 20);
+        for (Method f : c.getDeclaredMethods()) CHECK.holds(f + " takes at most seven", f.getParameterCount() <= 7);
+        CHECK.holds(c + " has no class inside", c == SlotStar.class || c.getDeclaredClasses().length == 0);
+    }
+
+    /** Methods stand four signs to the right in the class, eight in classes inside it. */
+    private static void lengths(String source) {
+        Matcher method = Pattern.compile("(?m)^( {4}| {8})\\w[^=;\n]*\\) \\{$(?s:.*?)^\\1\\}$").matcher(source);
+        int found = 0;
+        while (method.find()) {
+            found++;
+            String text = method.group();
+            CHECK.holds(text.split("\n")[0].trim() + " has at most sixty lines", count(text, "\n") < 60);
+        }
+        int methods = SlotStar.class.getDeclaredMethods().length + SlotStar.class.getDeclaredConstructors().length;
+        for (Class<?> c : SlotStar.class.getDeclaredClasses()) methods += c.getDeclaredMethods().length;
+        CHECK.due("methods whose length was seen", found, methods);
     }
 
     private static void words() throws IOException {
@@ -69,6 +101,10 @@ public final class LanguageTest {
         // Rows are looked into, and numbers divided, only in the four functions that test first.
         CHECK.due("looks into rows", count(code, "(?<!\\bint)\\[\\w"), 2);
         CHECK.due("divisions", count(code, "[^/*]/[^/*]|%"), 2);
+        // What is made is made with the object, so that a call makes nothing.
+        String fields = "(?m)^ {8}(private )?final int\\[\\] \\w+ = new |^ {8}\\w+ = new ";
+        CHECK.due("objects and rows made by calls", count(code, "\\bnew\\b") - count(code, fields), 0);
+        lengths(source);
     }
 
     private static int count(String text, String pattern) {
@@ -81,6 +117,7 @@ public final class LanguageTest {
     public static void main(String[] args) throws Exception {
         constants();
         methods();
+        sizes();
         words();
         CHECK.end();
     }
