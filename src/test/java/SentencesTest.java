@@ -45,6 +45,10 @@ public final class SentencesTest {
             return slots[k][1];
         }
 
+        int zone(int k) {
+            return slots[k][2];
+        }
+
         int phase(int k) {
             return slots[k][3];
         }
@@ -104,6 +108,18 @@ public final class SentencesTest {
             } else {
                 holds(a, "PHASE " + f + " is refused", forward == SlotStar.STATE && back == SlotStar.STATE);
             }
+        }
+    }
+
+    private static void zonesAcross(Answers a) {
+        sentence("ZONE of a TURN v: 2 M v by N, cut (0 to 2 M less 1).");
+        if (!a.balanced) return;
+        for (int k = 0; k < a.q; k++) {
+            int past = 2 * a.m * a.turn(k) - a.zone(k) * a.n;
+            holds(a, "TURN of " + k + " is in its ZONE", past >= 0 && past < a.n);
+            sentence("half of the ZONE, if that is even: it is FORWARD; else half of what the ZONE and M are together, left over by M: it is BACK");
+            int across = a.forward(k) ? 0 : a.m;
+            holds(a, "ZONE of " + k + " and its PHASE", Math.floorMod(a.zone(k) + across - 2 * a.phase(k), 2 * a.m) == 0 && a.phase(k) < a.m);
         }
     }
 
@@ -310,6 +326,10 @@ public final class SentencesTest {
         SlotStar x = machine(a.q, a.p, a.m, 0);
         int chosen = x.choose(wave), usual = x.told(3);
         holds(a, chosen + " is chosen for " + wave, chosen == SlotStar.NONE || chosen >= 1 && chosen <= usual);
+        for (int w : new int[] {1, a.q - 1}) {
+            x.width(w);
+            holds(a, chosen + " is chosen for " + wave + " by width " + w, x.choose(wave) == chosen && x.told(3) == w);
+        }
         for (int w = usual; w >= 1 && w >= chosen; w--) {
             x.width(w);
             holds(a, "width " + w + " for " + wave, (x.vanishes(wave) == 1) == (w == chosen));
@@ -334,6 +354,7 @@ public final class SentencesTest {
         Answers usual = new Answers(q, p, m, 0);
         eachTurnOnceInEachCopy(usual);
         phasesAreAlike(usual);
+        zonesAcross(usual);
         slotsForEach(usual);
         pathsAreAlike(usual);
         joinedInOrder(usual);
